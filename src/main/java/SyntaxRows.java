@@ -737,15 +737,13 @@ public final class SyntaxRows {
         private int readArray(int v, int depth) {
             values.setKind(v, ARRAY, 0);
             at++;
-            int part = v;
-            for (int step = 0; step <= TAPE_ROOM && part != NONE; step++) {
+            for (int step = 0; step <= TAPE_ROOM && fault == 0; step++) {
                 at = tape.behindWhite(at);
                 if (tape.at(at) == ']') {
                     at++;
                     return v;
                 }
-                part = readValue(depth + 1);
-                values.addPart(v, part);
+                values.addPart(v, readValue(depth + 1));
             }
             return NONE;
         }
@@ -753,8 +751,7 @@ public final class SyntaxRows {
         private int readDictionary(int v, int depth) {
             values.setKind(v, DICTIONARY, 0);
             at += 2;
-            int held = v;
-            for (int step = 0; step <= TAPE_ROOM && held != NONE; step++) {
+            for (int step = 0; step <= TAPE_ROOM && fault == 0; step++) {
                 at = tape.behindWhite(at);
                 if (tape.textStands(at, ">>")) {
                     at += 2;
@@ -764,7 +761,7 @@ public final class SyntaxRows {
                 if (key != NONE) {
                     key = readName(key);
                 }
-                held = key == NONE ? NONE : readValue(depth + 1);
+                int held = key == NONE ? NONE : readValue(depth + 1);
                 if (held != NONE) {
                     enter(v, key, held, values.keyLike(v, key));
                 }
@@ -1074,7 +1071,7 @@ public final class SyntaxRows {
     /** Holds OUT. It goes twice over what it writes, and keeps bytes the second time only, when they have room. */
     private static final class Writer {
         private static final int NOTHING = 0, WORD = 1, NAMED = 2, TEXT = 3, OPENING = 4, CLOSING = 5;
-        private static final String FIGURES = "0123456789ABCDEF";
+        private static final String FIGURES_16 = "0123456789ABCDEF";
 
         private final Values values;
         private final ObjectRows objects;
@@ -1152,14 +1149,14 @@ public final class SyntaxRows {
         private void putFigures(long n) {
             for (long unit = 100000000L; unit > 0; unit /= 10) {
                 if (n >= unit || unit == 1) {
-                    putByte(FIGURES.charAt((int) (n / unit % 10)));
+                    putByte('0' + (int) (n / unit % 10));
                 }
             }
         }
 
         private void putFigures16(int b) {
-            putByte(FIGURES.charAt(b >> 4 & 15));
-            putByte(FIGURES.charAt(b & 15));
+            putByte(FIGURES_16.charAt(b >> 4 & 15));
+            putByte(FIGURES_16.charAt(b & 15));
         }
 
         /** The blank that is due between what was written last and what comes now. */
@@ -1237,7 +1234,7 @@ public final class SyntaxRows {
             putByte('.');
             long rest = n % MILLION;
             for (long unit = MILLION / 10; unit > 0 && rest > 0; unit /= 10) {
-                putByte(FIGURES.charAt((int) (rest / unit % 10)));
+                putByte('0' + (int) (rest / unit));
                 rest %= unit;
             }
             if (n == 0) {

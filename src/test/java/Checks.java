@@ -114,10 +114,6 @@ final class Checks {
         return v;
     }
 
-    static String repeat(String text, int n) {
-        return text.repeat(n);
-    }
-
     void end() {
         if (wrong != 0) {
             System.out.println(wrong + " answers are not as due");
