@@ -1280,7 +1280,7 @@ public final class SyntaxRows {
         private void putArray(int v, int depth) {
             putMark(OPENING, "[");
             int part = values.firstOf(v);
-            for (int n = 0; n < values.partsOf(v) && depth <= DEEPEST; n++) {
+            for (int n = 0; n < values.partsOf(v) && depth < DEEPEST; n++) {
                 putValue(part, depth + 1);
                 part = values.nextOf(part);
             }
@@ -1292,7 +1292,7 @@ public final class SyntaxRows {
             int lengthKey = streamLength == NONE ? NONE : values.keySpelled(v, KEY_LENGTH);
             putMark(OPENING, "<<");
             int key = values.firstOf(v);
-            for (int n = 0; n < values.partsOf(v) / 2 && depth <= DEEPEST; n++) {
+            for (int n = 0; n < values.partsOf(v) / 2 && depth < DEEPEST; n++) {
                 putName(key);
                 if (key == lengthKey) {
                     putWhole(streamLength);

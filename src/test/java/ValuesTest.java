@@ -35,6 +35,7 @@ public final class ValuesTest {
     }
 
     private static void words(Checks c) {
+        c.read("1 0 obj 77 endobj");
         dueNumber(c, "null", SyntaxRows.NULL, 0, 0);
         dueNumber(c, "true", SyntaxRows.TRUTH, 0, 1);
         dueNumber(c, "false", SyntaxRows.TRUTH, 0, 0);
@@ -96,6 +97,7 @@ public final class ValuesTest {
         dueBytes(c, "(\\n\\r\\t\\b\\f)", SyntaxRows.STRING, 0, "\n\r\t\b\f");
         dueBytes(c, "(\\\\\\(\\)\\)\\x\\8\\%)", SyntaxRows.STRING, 0, "\\())x8%");
         dueBytes(c, "(\\1\\12\\101\\1018\\18\\400\\777)", SyntaxRows.STRING, 0, "\1\12AA8\0018\0\u00ff");
+        dueBytes(c, "(\\1011\\0000)", SyntaxRows.STRING, 0, "A1\0000");
         dueBytes(c, "(a\\\nb\\\rc\\\r\nd\\\n\re)", SyntaxRows.STRING, 0, "abcd\ne");
         dueBytes(c, "(a\nb\rc\r\nd\n\re)", SyntaxRows.STRING, 0, "a\nb\nc\nd\n\ne");
         dueBytes(c, "(%x\0\u00ff\u007f)", SyntaxRows.STRING, 0, "%x\0\u00ff\u007f");
@@ -146,6 +148,9 @@ public final class ValuesTest {
             c.due(text + " child " + k, c.x.child(v, k), children[k]);
         }
         c.due(text + " child behind", c.x.child(v, children.length), -1);
+        c.due(text + " number", c.x.number(v), 0);
+        c.due(text + " bytes", c.x.value(v, 2), 0);
+        c.due(text + " byteOf", c.x.byteOf(v, 0), -1);
     }
 
     private static void dictionaries(Checks c) {
