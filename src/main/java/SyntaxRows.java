@@ -713,6 +713,10 @@ public final class SyntaxRows {
             if ((first == '[' || opensDictionary) && depth >= DEEPEST) {
                 return fail(FAULT_TOO_DEEP, at);
             }
+            // Room is looked at for a value's first byte alone, so a byte that begins none is told as itself.
+            if (!beginsValue(first)) {
+                return fail(FAULT_CANNOT_STAND, at);
+            }
             int v = values.add();
             if (v == NONE) {
                 return fail(FAULT_NO_ROOM, at);
@@ -730,8 +734,12 @@ public final class SyntaxRows {
                 case '<':
                     return readFigureString(v);
                 default:
-                    return isRegular(first) ? readWord(v) : fail(FAULT_CANNOT_STAND, at);
+                    return readWord(v);
             }
+        }
+
+        private static boolean beginsValue(int b) {
+            return isRegular(b) || b == '/' || b == '(' || b == '<' || b == '[';
         }
 
         private int readArray(int v, int depth) {

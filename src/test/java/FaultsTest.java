@@ -8,6 +8,7 @@ public final class FaultsTest {
         longNumbers(c);
         tooDeep(c);
         noRoom(c);
+        noValueWithoutRoom(c);
         keys(c);
         noted(c);
         valuesAreGone(c);
@@ -130,6 +131,38 @@ public final class FaultsTest {
         c.due("faults give room back", c.read("1 0 obj[" + "/".repeat(299) + "}endobj " + full), 2);
         c.due("faults give room back: values", c.x.told(3), 300);
         c.due("faults give room back: fault", c.x.object(1, 3), 0);
+    }
+
+    /** A byte with which no value begins is 2, and the tape's end 1, also where a value would have no room. */
+    private static void noValueWithoutRoom(Checks c) {
+        String[] none = {")", ">", ">>", "{", "}", "\u007f", "\u0080", "\u00ff", "\u0001", "\u000b"};
+        String[] begun = {"x", "-", ".", "/", "(", "<", "<z", "<<", "[", "~", "!", "endobj", "stream"};
+        String array = "1 0 obj[" + "1 ".repeat(299);
+        String held = "1 0 obj[" + "1 ".repeat(297) + "<</A ";
+        String whole = "1 0 obj[" + "1 ".repeat(299) + "]endobj 2 0 obj ";
+        for (String bytes : none) {
+            c.dueFault(array + bytes + " ] endobj", 2, array.length(), 0);
+            c.dueFault(held + bytes + ">>] endobj", 2, held.length(), 0);
+            c.due(bytes + " as a whole value", c.read(whole + bytes + " endobj"), 2);
+            c.dueFault(bytes + " as a whole value", 1, 2, whole.length(), 0);
+        }
+        c.dueFault(held + "]", 2, held.length(), 0);
+        c.read(whole + "] endobj");
+        c.dueFault("] as a whole value", 1, 2, whole.length(), 0);
+        for (String bytes : begun) {
+            c.dueFault(array + bytes + " ] endobj", 6, array.length(), 0);
+            c.dueFault(held + bytes + ">>] endobj", 6, held.length(), 0);
+        }
+        c.dueFault(array, 1, array.length(), 0);
+        c.dueFault(held, 1, held.length(), 0);
+        c.read(whole);
+        c.dueFault("no whole value", 1, 1, whole.length(), 0);
+        String key = "1 0 obj[" + "1 ".repeat(298) + "<<";
+        c.dueFault(key + ")", 7, key.length(), 0);
+        c.dueFault(key + "/", 6, key.length(), 0);
+        c.dueFault(key, 1, key.length(), 0);
+        c.due("closed when full", c.read(key + ">>]endobj"), 1);
+        c.due("closed when full: fault", c.x.object(0, 3), 0);
     }
 
     private static void keys(Checks c) {
