@@ -40,8 +40,8 @@ final class Checks {
         dueThrow(call, IndexOutOfBoundsException.class, made);
     }
 
-    /** Puts a text behind what the tape has, each of its characters being a byte. */
-    int feed(String text) {
+    /** Puts a text behind what the tape of an object has, each of its characters being a byte. */
+    static int feed(SyntaxRows x, String text) {
         byte[] bytes = text.getBytes(StandardCharsets.ISO_8859_1);
         int answer = x.told(0);
         for (int from = 0; from < bytes.length; from += 8) {
@@ -55,8 +55,19 @@ final class Checks {
         return answer;
     }
 
-    /** A text as the whole tape, read: how many objects there are. */
+    int feed(String text) {
+        return feed(x, text);
+    }
+
+    /** A text as the whole tape of a new object, read: how many objects there are. New, as an object has 512 calls only. */
     int read(String text) {
+        x = new SyntaxRows();
+        feed(text);
+        return x.read();
+    }
+
+    /** The same with the object that is there, so that OUT stays. */
+    int readAgain(String text) {
         x.wipe();
         feed(text);
         return x.read();
@@ -101,6 +112,17 @@ final class Checks {
         due(text + " object " + i + " value", x.object(i, 2), SyntaxRows.NONE);
     }
 
+    /** The fault of a value in an object, its place counted from the value's first byte. */
+    void dueFaultIn(String value, int fault, int place, int noted) {
+        dueFault("1 0 obj " + value + " endobj", fault, 8 + place, noted);
+    }
+
+    /** The tape ends too early: 1, at its end. */
+    void dueEnd(String text, int noted) {
+        dueFault(text, 1, text.length(), noted);
+        due(text + " ends", x.object(0, 7), text.length());
+    }
+
     /** The tape is the value in an object: it has no fault, and is noted so. */
     int dueValue(String text, int kind, int noted) {
         due(text + " objects", read("1 0 obj " + text + " endobj"), 1);
@@ -112,6 +134,37 @@ final class Checks {
             due(text + " kind", x.value(v, 0), kind);
         }
         return v;
+    }
+
+    void dueNumber(String text, int kind, int noted, long number) {
+        int v = dueValue(text, kind, noted);
+        if (v < 0) {
+            return;
+        }
+        due(text + " number", x.number(v), number);
+        due(text + " values", x.value(v, 1), 0);
+        due(text + " bytes", x.value(v, 2), 0);
+        due(text + " all values", x.told(3), 1);
+    }
+
+    void dueBytes(String text, int kind, int noted, String bytes) {
+        int v = dueValue(text, kind, noted);
+        if (v < 0) {
+            return;
+        }
+        dueText(text + " bytes", bytes(v), bytes);
+        due(text + " byte behind", x.byteOf(v, bytes.length()), -1);
+        due(text + " byte before", x.byteOf(v, -1), -1);
+        due(text + " number", x.number(v), 0);
+        due(text + " values", x.value(v, 1), 0);
+        due(text + " child", x.child(v, 0), -1);
+    }
+
+    /** The objects of a tape that is read, and its stray bytes. */
+    void dueCounts(String text, int objects, int stray) {
+        due(text + " objects", read(text), objects);
+        due(text + " told(2)", x.told(2), objects);
+        due(text + " stray", x.told(4), stray);
     }
 
     void end() {

@@ -15,34 +15,24 @@ public final class FaultsTest {
         c.end();
     }
 
-    /** The fault of a value in an object, its place counted from the value's first byte. */
-    private static void dueIn(Checks c, String value, int fault, int place, int noted) {
-        c.dueFault("1 0 obj " + value + " endobj", fault, 8 + place, noted);
-    }
-
-    private static void dueAtEnd(Checks c, String text) {
-        c.dueFault(text, 1, text.length(), 0);
-        c.due(text + " ends", c.x.object(0, 7), text.length());
-    }
-
     private static void tapeEnds(Checks c) {
-        dueAtEnd(c, "1 0 obj");
-        dueAtEnd(c, "1 0 obj %x");
-        dueAtEnd(c, "1 0 obj 5");
-        dueAtEnd(c, "1 0 obj 5 %endobj");
-        dueAtEnd(c, "1 0 obj [1 2");
-        dueAtEnd(c, "1 0 obj <<");
-        dueAtEnd(c, "1 0 obj <</A");
-        dueAtEnd(c, "1 0 obj <</A 1 ");
-        dueAtEnd(c, "1 0 obj <</A 1>>");
-        dueAtEnd(c, "1 0 obj (a(b)");
-        dueAtEnd(c, "1 0 obj (a\\");
-        dueAtEnd(c, "1 0 obj (a\\1");
-        dueAtEnd(c, "1 0 obj (a\\\r\n");
-        dueAtEnd(c, "1 0 obj (" + "x".repeat(200));
-        dueAtEnd(c, "1 0 obj <");
-        dueAtEnd(c, "1 0 obj <41 4");
-        dueAtEnd(c, "1 0 obj [ (a endobj");
+        c.dueEnd("1 0 obj", 0);
+        c.dueEnd("1 0 obj %x", 0);
+        c.dueEnd("1 0 obj 5", 0);
+        c.dueEnd("1 0 obj 5 %endobj", 0);
+        c.dueEnd("1 0 obj [1 2", 0);
+        c.dueEnd("1 0 obj <<", 0);
+        c.dueEnd("1 0 obj <</A", 0);
+        c.dueEnd("1 0 obj <</A 1 ", 0);
+        c.dueEnd("1 0 obj <</A 1>>", 0);
+        c.dueEnd("1 0 obj (a(b)", 0);
+        c.dueEnd("1 0 obj (a\\", 0);
+        c.dueEnd("1 0 obj (a\\1", 0);
+        c.dueEnd("1 0 obj (a\\\r\n", 0);
+        c.dueEnd("1 0 obj (" + "x".repeat(200), 0);
+        c.dueEnd("1 0 obj <", 0);
+        c.dueEnd("1 0 obj <41 4", 0);
+        c.dueEnd("1 0 obj [ (a endobj", 0);
         c.dueFault("1 0 obj 5 endob", 2, 10, 0);
         c.dueFault("1 0 obj tru", 2, 8, 0);
     }
@@ -51,56 +41,56 @@ public final class FaultsTest {
         String[] never = {")", "}", "{", "]", ">", ">>", "tru", "truex", "nul", "R", "obj", "-", "+-", ".", "-.", "1a", "1.2.3",
             "1-2", "1+", ".-1", "\u007f", "\u0080", "\u00ff", "\u0001", "\u000b", "stream", "1234567890x"};
         for (String value : never) {
-            dueIn(c, value, 2, 0, 0);
-            dueIn(c, "[ 1 " + value + "x", 2, value.equals("]") ? 5 : 4, 0);
+            c.dueFaultIn(value, 2, 0, 0);
+            c.dueFaultIn("[ 1 " + value + "x", 2, value.equals("]") ? 5 : 4, 0);
         }
-        dueIn(c, "5 6", 2, 2, 0);
-        dueIn(c, "5(", 2, 1, 0);
-        dueIn(c, "5 stream\nendstream", 2, 2, 0);
-        dueIn(c, "5 endobjx", 2, 2, 0);
-        dueIn(c, "5\u00ff", 2, 1, 0);
-        dueIn(c, "<41 4z>", 2, 5, 0);
-        dueIn(c, "<%4>", 2, 1, 0);
-        dueIn(c, "<4<", 2, 2, 0);
-        dueIn(c, "< <", 2, 2, 0);
-        dueIn(c, "<</A >>", 2, 5, 0);
-        dueIn(c, "<</A>>", 2, 4, 0);
-        dueIn(c, "<</A ]", 2, 5, 0);
-        dueIn(c, "[1 >>", 2, 3, 0);
-        dueIn(c, "/a\u00ff", 2, 2, 0);
+        c.dueFaultIn("5 6", 2, 2, 0);
+        c.dueFaultIn("5(", 2, 1, 0);
+        c.dueFaultIn("5 stream\nendstream", 2, 2, 0);
+        c.dueFaultIn("5 endobjx", 2, 2, 0);
+        c.dueFaultIn("5\u00ff", 2, 1, 0);
+        c.dueFaultIn("<41 4z>", 2, 5, 0);
+        c.dueFaultIn("<%4>", 2, 1, 0);
+        c.dueFaultIn("<4<", 2, 2, 0);
+        c.dueFaultIn("< <", 2, 2, 0);
+        c.dueFaultIn("<</A >>", 2, 5, 0);
+        c.dueFaultIn("<</A>>", 2, 4, 0);
+        c.dueFaultIn("<</A ]", 2, 5, 0);
+        c.dueFaultIn("[1 >>", 2, 3, 0);
+        c.dueFaultIn("/a\u00ff", 2, 2, 0);
     }
 
     private static void texts(Checks c) {
-        dueIn(c, "/a#00b", 3, 0, 0);
-        dueIn(c, "[1 /a#00b", 3, 3, 0);
-        dueIn(c, "<</#00 1>>", 3, 2, 0);
-        dueIn(c, "/" + "x".repeat(41), 3, 0, 0);
-        dueIn(c, "/" + "x".repeat(40) + "#20", 3, 0, 0);
-        dueIn(c, "<</A/" + "x".repeat(41), 3, 4, 0);
-        dueIn(c, "(" + "x".repeat(201) + ")", 3, 0, 0);
-        dueIn(c, "[(" + "x".repeat(201), 3, 1, 0);
-        dueIn(c, "[(" + "x".repeat(200) + "\\1", 3, 1, 0);
-        dueIn(c, "<" + "41".repeat(201), 3, 0, 0);
-        dueIn(c, "<" + "41".repeat(200) + "4>", 3, 0, 0);
-        dueIn(c, "<" + "41".repeat(200) + "4z>", 2, 402, 0);
-        dueIn(c, "<" + "41".repeat(200) + "41z>", 3, 0, 0);
+        c.dueFaultIn("/a#00b", 3, 0, 0);
+        c.dueFaultIn("[1 /a#00b", 3, 3, 0);
+        c.dueFaultIn("<</#00 1>>", 3, 2, 0);
+        c.dueFaultIn("/" + "x".repeat(41), 3, 0, 0);
+        c.dueFaultIn("/" + "x".repeat(40) + "#20", 3, 0, 0);
+        c.dueFaultIn("<</A/" + "x".repeat(41), 3, 4, 0);
+        c.dueFaultIn("(" + "x".repeat(201) + ")", 3, 0, 0);
+        c.dueFaultIn("[(" + "x".repeat(201), 3, 1, 0);
+        c.dueFaultIn("[(" + "x".repeat(200) + "\\1", 3, 1, 0);
+        c.dueFaultIn("<" + "41".repeat(201), 3, 0, 0);
+        c.dueFaultIn("<" + "41".repeat(200) + "4>", 3, 0, 0);
+        c.dueFaultIn("<" + "41".repeat(200) + "4z>", 2, 402, 0);
+        c.dueFaultIn("<" + "41".repeat(200) + "41z>", 3, 0, 0);
     }
 
     private static void longNumbers(Checks c) {
-        dueIn(c, "1234567890", 4, 0, 0);
-        dueIn(c, "0000000001", 4, 0, 0);
-        dueIn(c, "-1234567890.", 4, 0, 0);
-        dueIn(c, ".1234567", 4, 0, 0);
-        dueIn(c, "1.0000000", 4, 0, 0);
-        dueIn(c, "[1 --1234567890]", 4, 3, 0);
-        dueIn(c, "9".repeat(100), 4, 0, 0);
-        dueIn(c, "1234567890 0 R", 4, 0, 0);
+        c.dueFaultIn("1234567890", 4, 0, 0);
+        c.dueFaultIn("0000000001", 4, 0, 0);
+        c.dueFaultIn("-1234567890.", 4, 0, 0);
+        c.dueFaultIn(".1234567", 4, 0, 0);
+        c.dueFaultIn("1.0000000", 4, 0, 0);
+        c.dueFaultIn("[1 --1234567890]", 4, 3, 0);
+        c.dueFaultIn("9".repeat(100), 4, 0, 0);
+        c.dueFaultIn("1234567890 0 R", 4, 0, 0);
     }
 
     private static void tooDeep(Checks c) {
-        dueIn(c, "[[[[[[[[[1]]]]]]]]]", 5, 8, 0);
-        dueIn(c, "[[[[[[[[ <<>>]]]]]]]]", 5, 9, 0);
-        dueIn(c, "<</a[<</a[<</a[<</a[[]]>>]>>]>>]>>", 5, 20, 0);
+        c.dueFaultIn("[[[[[[[[[1]]]]]]]]]", 5, 8, 0);
+        c.dueFaultIn("[[[[[[[[ <<>>]]]]]]]]", 5, 9, 0);
+        c.dueFaultIn("<</a[<</a[<</a[<</a[[]]>>]>>]>>]>>", 5, 20, 0);
         c.due("side by side", c.read("1 0 obj [[[[[[[[][][]]]]]]]] endobj"), 1);
         c.due("side by side: fault", c.x.object(0, 3), 0);
     }
@@ -166,28 +156,28 @@ public final class FaultsTest {
     }
 
     private static void keys(Checks c) {
-        dueIn(c, "<< 5 6 >>", 7, 3, 0);
-        dueIn(c, "<</A 1 (b) 2>>", 7, 7, 0);
-        dueIn(c, "<</A 1 > >", 7, 7, 0);
-        dueIn(c, "<</A 1 ]", 7, 7, 0);
-        dueIn(c, "<</A 1 \u00ff", 7, 7, 0);
-        dueIn(c, "<</A 1 2>>", 7, 7, 0);
+        c.dueFaultIn("<< 5 6 >>", 7, 3, 0);
+        c.dueFaultIn("<</A 1 (b) 2>>", 7, 7, 0);
+        c.dueFaultIn("<</A 1 > >", 7, 7, 0);
+        c.dueFaultIn("<</A 1 ]", 7, 7, 0);
+        c.dueFaultIn("<</A 1 \u00ff", 7, 7, 0);
+        c.dueFaultIn("<</A 1 2>>", 7, 7, 0);
         c.dueFault("1 0 obj <</A 1 >", 7, 15, 0);
         c.dueFault("1 0 obj <</A 1 endobj", 7, 15, 0);
         c.due("ends at that endobj", c.x.object(0, 7), 21);
     }
 
     private static void noted(Checks c) {
-        dueIn(c, "[--1 }", 2, 5, SyntaxRows.ODD);
-        dueIn(c, "[} --1", 2, 1, 0);
-        dueIn(c, "[<4> }", 2, 5, SyntaxRows.ODD);
-        dueIn(c, "[<4} <4>", 2, 3, 0);
-        dueIn(c, "[<</A 1/A 2>>}", 2, 13, SyntaxRows.DOUBLE);
-        dueIn(c, "<</A 1/A }", 2, 9, 0);
-        dueIn(c, "<</A 1/A --2}", 7, 12, SyntaxRows.ODD | SyntaxRows.DOUBLE);
-        dueIn(c, "--1234567890", 4, 0, 0);
-        dueIn(c, "<" + "41".repeat(200) + "4>", 3, 0, 0);
-        dueIn(c, "<4> 5", 2, 4, SyntaxRows.ODD);
+        c.dueFaultIn("[--1 }", 2, 5, SyntaxRows.ODD);
+        c.dueFaultIn("[} --1", 2, 1, 0);
+        c.dueFaultIn("[<4> }", 2, 5, SyntaxRows.ODD);
+        c.dueFaultIn("[<4} <4>", 2, 3, 0);
+        c.dueFaultIn("[<</A 1/A 2>>}", 2, 13, SyntaxRows.DOUBLE);
+        c.dueFaultIn("<</A 1/A }", 2, 9, 0);
+        c.dueFaultIn("<</A 1/A --2}", 7, 12, SyntaxRows.ODD | SyntaxRows.DOUBLE);
+        c.dueFaultIn("--1234567890", 4, 0, 0);
+        c.dueFaultIn("<" + "41".repeat(200) + "4>", 3, 0, 0);
+        c.dueFaultIn("<4> 5", 2, 4, SyntaxRows.ODD);
     }
 
     private static void valuesAreGone(Checks c) {

@@ -12,36 +12,30 @@ public final class ObjectsTest {
         c.end();
     }
 
-    private static void dueCounts(Checks c, String text, int objects, int stray) {
-        c.due(text + " objects", c.read(text), objects);
-        c.due(text + " told(2)", c.x.told(2), objects);
-        c.due(text + " stray", c.x.told(4), stray);
-    }
-
     private static void heads(Checks c) {
-        dueCounts(c, "", 0, 0);
-        dueCounts(c, "1 0 ob", 0, 4);
-        dueCounts(c, "1 0 objx 5 endobj", 0, 13);
-        dueCounts(c, "1 0obj 5 endobj", 0, 12);
-        dueCounts(c, "1 -0 obj 5", 0, 7);
-        dueCounts(c, "+1 0 obj 5 endobj", 1, 1);
+        c.dueCounts("", 0, 0);
+        c.dueCounts("1 0 ob", 0, 4);
+        c.dueCounts("1 0 objx 5 endobj", 0, 13);
+        c.dueCounts("1 0obj 5 endobj", 0, 12);
+        c.dueCounts("1 -0 obj 5", 0, 7);
+        c.dueCounts("+1 0 obj 5 endobj", 1, 1);
         c.due("+1 0 obj begins", c.x.object(0, 6), 1);
-        dueCounts(c, "7 1 0 obj 5 endobj", 1, 1);
+        c.dueCounts("7 1 0 obj 5 endobj", 1, 1);
         c.due("7 1 0 obj number", c.x.object(0, 0), 1);
-        dueCounts(c, "x5 0 obj 5 endobj", 1, 1);
+        c.dueCounts("x5 0 obj 5 endobj", 1, 1);
         c.due("x5 0 obj number", c.x.object(0, 0), 5);
-        dueCounts(c, "123456789 987654321 obj 5 endobj", 1, 0);
+        c.dueCounts("123456789 987654321 obj 5 endobj", 1, 0);
         c.due("nine figures of a number", c.x.object(0, 0), 123456789);
         c.due("nine figures of a generation", c.x.object(0, 1), 987654321);
-        dueCounts(c, "1234567890 0 obj 5 endobj", 1, 1);
+        c.dueCounts("1234567890 0 obj 5 endobj", 1, 1);
         c.due("ten figures: the first is stray", c.x.object(0, 0), 234567890);
-        dueCounts(c, "1 1234567890 obj 5 endobj", 0, 21);
-        dueCounts(c, "1 0 obj(a)endobj", 1, 0);
-        dueCounts(c, "1 0 obj/a endobj", 1, 0);
-        dueCounts(c, "1 0 obj[]endobj(", 1, 1);
-        dueCounts(c, "1%x\n0%y\robj 5 endobj", 1, 0);
-        dueCounts(c, "1\0000\t\f\r\nobj 5 endobj", 1, 0);
-        dueCounts(c, "1 0 obj 5 endobj 0012 0003 obj 6 endobj", 2, 0);
+        c.dueCounts("1 1234567890 obj 5 endobj", 0, 21);
+        c.dueCounts("1 0 obj(a)endobj", 1, 0);
+        c.dueCounts("1 0 obj/a endobj", 1, 0);
+        c.dueCounts("1 0 obj[]endobj(", 1, 1);
+        c.dueCounts("1%x\n0%y\robj 5 endobj", 1, 0);
+        c.dueCounts("1\0000\t\f\r\nobj 5 endobj", 1, 0);
+        c.dueCounts("1 0 obj 5 endobj 0012 0003 obj 6 endobj", 2, 0);
         c.due("zeros before a number", c.x.object(1, 0), 12);
         c.due("zeros before a generation", c.x.object(1, 1), 3);
     }
@@ -66,12 +60,12 @@ public final class ObjectsTest {
     }
 
     private static void white(Checks c) {
-        dueCounts(c, "%1 0 obj 5 endobj", 0, 0);
-        dueCounts(c, "a%1 0 obj 5 endobj\rb", 0, 2);
-        dueCounts(c, "a%b%c\nd", 0, 2);
-        dueCounts(c, "\0\t\n\f\r \u000b\u0008\u007f\u00ff", 0, 4);
-        dueCounts(c, "(1 0 obj 5 endobj)", 1, 2);
-        dueCounts(c, "1 0 obj%c\n5%c\nendobj%c", 1, 0);
+        c.dueCounts("%1 0 obj 5 endobj", 0, 0);
+        c.dueCounts("a%1 0 obj 5 endobj\rb", 0, 2);
+        c.dueCounts("a%b%c\nd", 0, 2);
+        c.dueCounts("\0\t\n\f\r \u000b\u0008\u007f\u00ff", 0, 4);
+        c.dueCounts("(1 0 obj 5 endobj)", 1, 2);
+        c.dueCounts("1 0 obj%c\n5%c\nendobj%c", 1, 0);
         c.due("behind endobj", c.x.object(0, 7), 20);
     }
 

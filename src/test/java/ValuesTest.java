@@ -16,54 +16,35 @@ public final class ValuesTest {
         c.end();
     }
 
-    private static void dueNumber(Checks c, String text, int kind, int noted, long number) {
-        int v = c.dueValue(text, kind, noted);
-        c.due(text + " number", c.x.number(v), number);
-        c.due(text + " values", c.x.value(v, 1), 0);
-        c.due(text + " bytes", c.x.value(v, 2), 0);
-        c.due(text + " all values", c.x.told(3), 1);
-    }
-
-    private static void dueBytes(Checks c, String text, int kind, int noted, String bytes) {
-        int v = c.dueValue(text, kind, noted);
-        c.dueText(text + " bytes", c.bytes(v), bytes);
-        c.due(text + " byte behind", c.x.byteOf(v, bytes.length()), -1);
-        c.due(text + " byte before", c.x.byteOf(v, -1), -1);
-        c.due(text + " number", c.x.number(v), 0);
-        c.due(text + " values", c.x.value(v, 1), 0);
-        c.due(text + " child", c.x.child(v, 0), -1);
-    }
-
     private static void words(Checks c) {
-        c.read("1 0 obj 77 endobj");
-        dueNumber(c, "null", SyntaxRows.NULL, 0, 0);
-        dueNumber(c, "true", SyntaxRows.TRUTH, 0, 1);
-        dueNumber(c, "false", SyntaxRows.TRUTH, 0, 0);
+        c.dueNumber("null", SyntaxRows.NULL, 0, 0);
+        c.dueNumber("true", SyntaxRows.TRUTH, 0, 1);
+        c.dueNumber("false", SyntaxRows.TRUTH, 0, 0);
     }
 
     private static void numbers(Checks c) {
-        dueNumber(c, "0", SyntaxRows.WHOLE, 0, 0);
-        dueNumber(c, "-0", SyntaxRows.WHOLE, 0, 0);
-        dueNumber(c, "+17", SyntaxRows.WHOLE, 0, 17);
-        dueNumber(c, "-17", SyntaxRows.WHOLE, 0, -17);
-        dueNumber(c, "--17", SyntaxRows.WHOLE, SyntaxRows.ODD, -17);
-        dueNumber(c, "+-17", SyntaxRows.WHOLE, SyntaxRows.ODD, 17);
-        dueNumber(c, "-+-17", SyntaxRows.WHOLE, SyntaxRows.ODD, -17);
-        dueNumber(c, "999999999", SyntaxRows.WHOLE, 0, 999999999);
-        dueNumber(c, "-000000001", SyntaxRows.WHOLE, 0, -1);
-        dueNumber(c, "5.", SyntaxRows.REAL, 0, 5000000);
-        dueNumber(c, ".5", SyntaxRows.REAL, 0, 500000);
-        dueNumber(c, "-.000001", SyntaxRows.REAL, 0, -1);
-        dueNumber(c, "--.25", SyntaxRows.REAL, SyntaxRows.ODD, -250000);
-        dueNumber(c, "999999999.999999", SyntaxRows.REAL, 0, 999999999999999L);
-        dueNumber(c, "-0.0", SyntaxRows.REAL, 0, 0);
+        c.dueNumber("0", SyntaxRows.WHOLE, 0, 0);
+        c.dueNumber("-0", SyntaxRows.WHOLE, 0, 0);
+        c.dueNumber("+17", SyntaxRows.WHOLE, 0, 17);
+        c.dueNumber("-17", SyntaxRows.WHOLE, 0, -17);
+        c.dueNumber("--17", SyntaxRows.WHOLE, SyntaxRows.ODD, -17);
+        c.dueNumber("+-17", SyntaxRows.WHOLE, SyntaxRows.ODD, 17);
+        c.dueNumber("-+-17", SyntaxRows.WHOLE, SyntaxRows.ODD, -17);
+        c.dueNumber("999999999", SyntaxRows.WHOLE, 0, 999999999);
+        c.dueNumber("-000000001", SyntaxRows.WHOLE, 0, -1);
+        c.dueNumber("5.", SyntaxRows.REAL, 0, 5000000);
+        c.dueNumber(".5", SyntaxRows.REAL, 0, 500000);
+        c.dueNumber("-.000001", SyntaxRows.REAL, 0, -1);
+        c.dueNumber("--.25", SyntaxRows.REAL, SyntaxRows.ODD, -250000);
+        c.dueNumber("999999999.999999", SyntaxRows.REAL, 0, 999999999999999L);
+        c.dueNumber("-0.0", SyntaxRows.REAL, 0, 0);
     }
 
     private static void references(Checks c) {
-        dueNumber(c, "7 0 R", SyntaxRows.REFERENCE, 0, 7);
-        dueNumber(c, "7%x\n00%y\rR", SyntaxRows.REFERENCE, 0, 7);
-        dueNumber(c, "999999999 999999999 R", SyntaxRows.REFERENCE, 0, 999999999999999999L);
-        dueNumber(c, "12 3 R", SyntaxRows.REFERENCE, 0, 3000000012L);
+        c.dueNumber("7 0 R", SyntaxRows.REFERENCE, 0, 7);
+        c.dueNumber("7%x\n00%y\rR", SyntaxRows.REFERENCE, 0, 7);
+        c.dueNumber("999999999 999999999 R", SyntaxRows.REFERENCE, 0, 999999999999999999L);
+        c.dueNumber("12 3 R", SyntaxRows.REFERENCE, 0, 3000000012L);
         int v = c.dueValue("[1 2 3 R 4 5]", SyntaxRows.ARRAY, 0);
         c.due("1, 2 3 R, 4, 5", c.x.value(v, 1), 4);
         c.due("2 3 R", c.x.number(2), 3000000002L);
@@ -78,42 +59,42 @@ public final class ValuesTest {
     }
 
     private static void names(Checks c) {
-        dueBytes(c, "/", SyntaxRows.NAME, 0, "");
-        dueBytes(c, "/Ab.-+*", SyntaxRows.NAME, 0, "Ab.-+*");
-        dueBytes(c, "/A#20b", SyntaxRows.NAME, 0, "A b");
-        dueBytes(c, "/#fF#41#", SyntaxRows.NAME, 0, "\u00ffA#");
-        dueBytes(c, "/#zz#4z#4", SyntaxRows.NAME, 0, "#zz#4z#4");
-        dueBytes(c, "/##41#0#", SyntaxRows.NAME, 0, "#A#0#");
-        dueBytes(c, "/#23#234", SyntaxRows.NAME, 0, "##4");
-        dueBytes(c, "/" + "x".repeat(40), SyntaxRows.NAME, 0, "x".repeat(40));
-        dueBytes(c, "/" + "#61".repeat(40), SyntaxRows.NAME, 0, "a".repeat(40));
+        c.dueBytes("/", SyntaxRows.NAME, 0, "");
+        c.dueBytes("/Ab.-+*", SyntaxRows.NAME, 0, "Ab.-+*");
+        c.dueBytes("/A#20b", SyntaxRows.NAME, 0, "A b");
+        c.dueBytes("/#fF#41#", SyntaxRows.NAME, 0, "\u00ffA#");
+        c.dueBytes("/#zz#4z#4", SyntaxRows.NAME, 0, "#zz#4z#4");
+        c.dueBytes("/##41#0#", SyntaxRows.NAME, 0, "#A#0#");
+        c.dueBytes("/#23#234", SyntaxRows.NAME, 0, "##4");
+        c.dueBytes("/" + "x".repeat(40), SyntaxRows.NAME, 0, "x".repeat(40));
+        c.dueBytes("/" + "#61".repeat(40), SyntaxRows.NAME, 0, "a".repeat(40));
         int v = c.dueValue("[//a/b(c)/]", SyntaxRows.ARRAY, 0);
         c.due("names without white", c.x.value(v, 1), 5);
     }
 
     private static void strings(Checks c) {
-        dueBytes(c, "()", SyntaxRows.STRING, 0, "");
-        dueBytes(c, "(a(b)(())c)", SyntaxRows.STRING, 0, "a(b)(())c");
-        dueBytes(c, "(\\n\\r\\t\\b\\f)", SyntaxRows.STRING, 0, "\n\r\t\b\f");
-        dueBytes(c, "(\\\\\\(\\)\\)\\x\\8\\%)", SyntaxRows.STRING, 0, "\\())x8%");
-        dueBytes(c, "(\\1\\12\\101\\1018\\18\\400\\777)", SyntaxRows.STRING, 0, "\1\12AA8\0018\0\u00ff");
-        dueBytes(c, "(\\1011\\0000)", SyntaxRows.STRING, 0, "A1\0000");
-        dueBytes(c, "(a\\\nb\\\rc\\\r\nd\\\n\re)", SyntaxRows.STRING, 0, "abcd\ne");
-        dueBytes(c, "(a\nb\rc\r\nd\n\re)", SyntaxRows.STRING, 0, "a\nb\nc\nd\n\ne");
-        dueBytes(c, "(%x\0\u00ff\u007f)", SyntaxRows.STRING, 0, "%x\0\u00ff\u007f");
-        dueBytes(c, "(" + "y".repeat(200) + ")", SyntaxRows.STRING, 0, "y".repeat(200));
-        dueBytes(c, "(" + "y".repeat(200) + "\\\n)", SyntaxRows.STRING, 0, "y".repeat(200));
-        dueBytes(c, "(" + "\\101".repeat(200) + ")", SyntaxRows.STRING, 0, "A".repeat(200));
+        c.dueBytes("()", SyntaxRows.STRING, 0, "");
+        c.dueBytes("(a(b)(())c)", SyntaxRows.STRING, 0, "a(b)(())c");
+        c.dueBytes("(\\n\\r\\t\\b\\f)", SyntaxRows.STRING, 0, "\n\r\t\b\f");
+        c.dueBytes("(\\\\\\(\\)\\)\\x\\8\\%)", SyntaxRows.STRING, 0, "\\())x8%");
+        c.dueBytes("(\\1\\12\\101\\1018\\18\\400\\777)", SyntaxRows.STRING, 0, "\1\12AA8\0018\0\u00ff");
+        c.dueBytes("(\\1011\\0000)", SyntaxRows.STRING, 0, "A1\0000");
+        c.dueBytes("(a\\\nb\\\rc\\\r\nd\\\n\re)", SyntaxRows.STRING, 0, "abcd\ne");
+        c.dueBytes("(a\nb\rc\r\nd\n\re)", SyntaxRows.STRING, 0, "a\nb\nc\nd\n\ne");
+        c.dueBytes("(%x\0\u00ff\u007f)", SyntaxRows.STRING, 0, "%x\0\u00ff\u007f");
+        c.dueBytes("(" + "y".repeat(200) + ")", SyntaxRows.STRING, 0, "y".repeat(200));
+        c.dueBytes("(" + "y".repeat(200) + "\\\n)", SyntaxRows.STRING, 0, "y".repeat(200));
+        c.dueBytes("(" + "\\101".repeat(200) + ")", SyntaxRows.STRING, 0, "A".repeat(200));
     }
 
     private static void figureStrings(Checks c) {
-        dueBytes(c, "<>", SyntaxRows.STRING, 0, "");
-        dueBytes(c, "<4 1\0\t\n\f\r4b4B>", SyntaxRows.STRING, 0, "AKK");
-        dueBytes(c, "<fFaA00>", SyntaxRows.STRING, 0, "\u00ff\u00aa\0");
-        dueBytes(c, "<414>", SyntaxRows.STRING, SyntaxRows.ODD, "A@");
-        dueBytes(c, "< 5 >", SyntaxRows.STRING, SyntaxRows.ODD, "P");
-        dueBytes(c, "<" + "41".repeat(200) + ">", SyntaxRows.STRING, 0, "A".repeat(200));
-        dueBytes(c, "<" + "41".repeat(199) + "4>", SyntaxRows.STRING, SyntaxRows.ODD, "A".repeat(199) + "@");
+        c.dueBytes("<>", SyntaxRows.STRING, 0, "");
+        c.dueBytes("<4 1\0\t\n\f\r4b4B>", SyntaxRows.STRING, 0, "AKK");
+        c.dueBytes("<fFaA00>", SyntaxRows.STRING, 0, "\u00ff\u00aa\0");
+        c.dueBytes("<414>", SyntaxRows.STRING, SyntaxRows.ODD, "A@");
+        c.dueBytes("< 5 >", SyntaxRows.STRING, SyntaxRows.ODD, "P");
+        c.dueBytes("<" + "41".repeat(200) + ">", SyntaxRows.STRING, 0, "A".repeat(200));
+        c.dueBytes("<" + "41".repeat(199) + "4>", SyntaxRows.STRING, SyntaxRows.ODD, "A".repeat(199) + "@");
     }
 
     private static void arrays(Checks c) {

@@ -130,7 +130,7 @@ public final class WriteTest {
         c.due("OUT stays", c.x.told(1), 4000);
         c.due("OUT's bytes stay", c.x.out(3998), ')');
         c.due("the row is too long", c.x.write(0, false, true), -1);
-        c.read("1 0 obj[" + names + "(abcd)]endobj");
+        c.readAgain("1 0 obj[" + names + "(abcd)]endobj");
         c.due("4001 bytes", c.x.write(0, false, false), -1);
         c.due("OUT stays behind it", c.x.told(1), 4000);
         c.due("a short one", c.x.write(1, false, false), 121);
