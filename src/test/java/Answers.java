@@ -23,12 +23,17 @@ final class Answers {
         return behindUnread(run) + "the tape reads as\n" + read(run);
     }
 
-    /** What was read anew alone, without OUT. */
+    /** Of what is read behind the run alone, without the tape and OUT. */
     static String read(Run run) {
-        Answers answers = new Answers(x -> {
+        return asRead(x -> {
             run.on(x);
             x.read();
         });
+    }
+
+    /** Of what was read in the run alone, without the tape and OUT. */
+    static String asRead(Run run) {
+        Answers answers = new Answers(run);
         answers.askRead();
         return answers.text.toString();
     }
