@@ -3,6 +3,7 @@
  * every tape reads on them as it does on a new object.
  */
 public final class AgainTest {
+    /** With two whose object 9 tells its own Length: as the object is not read so far, what it was before must not tell it. */
     private static final String[] TAPES = {
         "",
         "x (1 y",
@@ -12,6 +13,8 @@ public final class AgainTest {
         "1 0 obj<<>>stream\nabc endobj 2 0 obj [/x } endobj 3 0 obj /y endobj",
         "2 0 obj 3 endobj 1 0 obj<</Length 2 0 R>>stream\nabc\nendstream endobj",
         "1 0 obj<</Length 2 0 R>>stream\nabc\nendstream endobj",
+        "9 0 obj<</A 1>>stream\nx\nendstream endobj",
+        "9 0 obj<</C[3]/Length 9 0 R>>stream\nabc\nendstream endobj",
         "1 0 obj[" + "/".repeat(299) + "]endobj",
         "1 0 obj[" + "/".repeat(300) + "]endobj",
         "1 0 obj[" + ("(" + "s".repeat(200) + ")").repeat(5) + "]endobj",

@@ -38,8 +38,16 @@ final class Answers {
         return answers.text.toString();
     }
 
+    /** Of OUT behind the run alone. */
+    static String out(Run run) {
+        Answers answers = new Answers(run);
+        answers.askOut();
+        return answers.text.toString();
+    }
+
     private static String behindUnread(Run run) {
         Answers answers = new Answers(run);
+        answers.note("told(0)", answers.next().told(0));
         answers.askOut();
         answers.askRead();
         return answers.text.toString();
@@ -61,7 +69,6 @@ final class Answers {
     }
 
     private void askOut() {
-        note("told(0)", next().told(0));
         int size = note("told(1)", next().told(1));
         for (int i = -1; i <= size; i++) {
             note("out(" + i + ")", next().out(i));

@@ -75,7 +75,8 @@ final class Checks {
 
     String out() {
         StringBuilder text = new StringBuilder();
-        for (int i = 0; i < x.told(1); i++) {
+        int size = x.told(1);
+        for (int i = 0; i < size; i++) {
             text.append((char) x.out(i));
         }
         return text.toString();
@@ -93,7 +94,8 @@ final class Checks {
 
     String bytes(int v) {
         StringBuilder text = new StringBuilder();
-        for (int k = 0; k < x.value(v, 2); k++) {
+        int size = x.value(v, 2);
+        for (int k = 0; k < size; k++) {
             text.append((char) x.byteOf(v, k));
         }
         return text.toString();

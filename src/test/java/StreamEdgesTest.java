@@ -189,6 +189,7 @@ public final class StreamEdgesTest {
         dueLast(c, "3 4 obj 13 endobj 1 2 obj 3 4 R endobj", "1 2 R", LIES);
         dueLast(c, "9 9 obj 13 endobj", "9 9 R", 0);
         dueLast(c, "", "9 9 R", LIES);
+        dueLast(c, "1 2 obj 13 endobj", "9 9 R", LIES);
         dueLast(c, "", "8 8 R", LIES);
     }
 

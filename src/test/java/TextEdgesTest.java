@@ -131,6 +131,7 @@ public final class TextEdgesTest {
         c.dueBytes("(\\008)", STRING, 0, "\0" + "8");
         c.dueBytes("(\\0007)", STRING, 0, "\0" + "7");
         c.dueBytes("(\\1\\2)", STRING, 0, "\1\2");
+        c.dueBytes("(\\1/\\1:\\11/\\11:)", STRING, 0, "\1/\1:\t/\t:");
         c.dueEnd("1 0 obj (\\", 0);
         c.dueEnd("1 0 obj (\\1", 0);
         c.dueEnd("1 0 obj (\\12", 0);

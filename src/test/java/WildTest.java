@@ -6,16 +6,29 @@ public final class WildTest {
 
     private long seed = 20261115L;
 
+    private final Checks c = new Checks();
+    private String text = "";
+    private int asked = 0;
+
     public static void main(String[] args) {
-        Checks c = new Checks();
         WildTest wild = new WildTest();
         for (int round = 0; round < 4000; round++) {
-            c.x = new SyntaxRows();
-            wild.tape(c, round);
-            look(c);
-            roundTrip(c, round % 2 == 0);
+            wild.makeTape(round);
+            wild.lookAtObjects();
+            wild.lookAtValues();
+            wild.roundTrip(round % 2 == 0);
         }
-        c.end();
+        wild.c.end();
+    }
+
+    /** The object under test, made anew before its 512 calls are over. */
+    private SyntaxRows x() {
+        if (asked >= 300) {
+            c.read(text);
+            asked = 0;
+        }
+        asked++;
+        return c.x;
     }
 
     private int chance(int below) {
@@ -23,17 +36,19 @@ public final class WildTest {
         return (int) ((seed >>> 33) % below);
     }
 
-    private void tape(Checks c, int round) {
-        StringBuilder text = new StringBuilder();
+    private void makeTape(int round) {
+        StringBuilder tape = new StringBuilder();
         int parts = chance(200);
         for (int i = 0; i < parts; i++) {
             if (round % 3 == 0) {
-                text.append(PARTS[chance(PARTS.length)]);
+                tape.append(PARTS[chance(PARTS.length)]);
             } else {
-                text.append(i + 1).append(" 0 obj ").append(value(0)).append(chance(9) == 0 ? PARTS[chance(PARTS.length)] : "").append(" endobj\n");
+                tape.append(i + 1).append(" 0 obj ").append(value(0)).append(chance(9) == 0 ? PARTS[chance(PARTS.length)] : "").append(" endobj\n");
             }
         }
-        c.read(text.toString());
+        text = tape.substring(0, Math.min(1600, tape.length()));
+        c.read(text);
+        asked = 0;
     }
 
     private String value(int depth) {
@@ -61,46 +76,64 @@ public final class WildTest {
         }
     }
 
-    private static void look(Checks c) {
-        int values = c.x.told(3);
-        for (int i = 0; i < c.x.told(2); i++) {
-            boolean faulty = c.x.object(i, 3) != 0;
-            c.due("a fault has no value", c.x.object(i, 2) == -1 ? 1 : 0, faulty ? 1 : 0);
-            c.due("a fault has a place", c.x.object(i, 4) == -1 ? 0 : 1, faulty ? 1 : 0);
-            int before = i == 0 ? 0 : c.x.object(i - 1, 7);
-            c.due("objects are in order", c.x.object(i, 6) >= before && c.x.object(i, 7) > c.x.object(i, 6) ? 1 : 0, 1);
+    private void lookAtObjects() {
+        int objects = x().told(2);
+        int before = 0;
+        for (int i = 0; i < objects; i++) {
+            boolean faulty = x().object(i, 3) != 0;
+            c.due("a fault has no value", x().object(i, 2) == -1 ? 1 : 0, faulty ? 1 : 0);
+            c.due("a fault has a place", x().object(i, 4) == -1 ? 0 : 1, faulty ? 1 : 0);
+            int begin = x().object(i, 6);
+            int end = x().object(i, 7);
+            c.due("objects are in order", begin >= before && end > begin ? 1 : 0, 1);
+            before = end;
         }
+    }
+
+    private void lookAtValues() {
+        int values = x().told(3);
         for (int v = 0; v < values; v++) {
-            for (int k = -1; k <= c.x.value(v, 1); k++) {
-                int child = c.x.child(v, k);
-                boolean there = k >= 0 && k < c.x.value(v, 1);
-                c.due("child", child >= 0 && child < values ? 1 : 0, there ? 1 : 0);
+            int parts = x().value(v, 1);
+            int bytes = x().value(v, 2);
+            for (int k = -1; k <= parts; k++) {
+                int child = x().child(v, k);
+                c.due("child", child >= 0 && child < values ? 1 : 0, k >= 0 && k < parts ? 1 : 0);
             }
-            for (int k = -1; k <= c.x.value(v, 2); k++) {
-                boolean there = k >= 0 && k < c.x.value(v, 2);
-                c.due("byteOf", c.x.byteOf(v, k) >= 0 ? 1 : 0, there ? 1 : 0);
+            for (int k = -1; k <= bytes; k++) {
+                c.due("byteOf", x().byteOf(v, k) >= 0 ? 1 : 0, k >= 0 && k < bytes ? 1 : 0);
             }
-            for (int k = 0; k + 1 < c.x.value(v, 1) && c.x.value(v, 0) == SyntaxRows.DICTIONARY; k += 2) {
-                c.due("lookup", c.x.lookup(v, c.x.child(v, k)), c.x.child(v, k + 1));
+            for (int k = 0; k + 1 < parts && x().value(v, 0) == SyntaxRows.DICTIONARY; k += 2) {
+                c.due("lookup", x().lookup(v, x().child(v, k)), x().child(v, k + 1));
             }
         }
     }
 
-    private static void roundTrip(Checks c, boolean readable) {
+    private void roundTrip(boolean readable) {
+        Answers.Run written = x -> {
+            Checks.feed(x, text);
+            x.read();
+            x.write(0, readable, true);
+        };
+        Answers.Run again = x -> {
+            written.on(x);
+            x.take();
+            x.read();
+        };
+        c.x = new SyntaxRows();
+        written.on(c.x);
         // A stream without a Length gets one, and so two values more.
-        boolean room = c.x.told(3) + 40 <= 300;
-        int written = c.x.write(0, readable, true);
-        if (!room || written < 0 || c.x.take() < 0) {
+        if (c.x.told(3) + 40 > 300 || c.x.told(1) == 0 || c.x.take() < 0) {
             return;
         }
-        String first = c.out();
         c.x.read();
         c.due("no stray in what was written", c.x.told(4), 0);
         for (int i = 0; i < c.x.told(2); i++) {
-            c.due("no fault in what was written: " + first, c.x.object(i, 3), 0);
-            c.due("nothing noted of what was written: " + first, c.x.object(i, 5), 0);
+            c.due("no fault in what was written", c.x.object(i, 3), 0);
+            c.due("nothing noted of what was written", c.x.object(i, 5), 0);
         }
-        c.x.write(0, readable, true);
-        c.dueText("written again", c.out(), first);
+        c.dueText("written again", Answers.out(x -> {
+            again.on(x);
+            x.write(0, readable, true);
+        }), Answers.out(written));
     }
 }

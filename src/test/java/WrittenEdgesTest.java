@@ -245,6 +245,9 @@ public final class WrittenEdgesTest {
         c.read("1 0 obj<<>>stream\nx\nendstream endobj");
         c.x.write(0, true, true);
         c.dueText("a stream", c.out(), "1 0 obj\n<</Length 1>>\nstream\nx\nendstream\nendobj\n");
+        c.read("1 0 obj[[[[[[[[1]]]]]]]]endobj 2 0 obj<</a<</a<</a<</a<</a<</a<</a<</a 1>>>>>>>>>>>>>>>>endobj");
+        c.x.write(0, false, true);
+        c.dueText("eight deep", c.out(), "1 0 obj\n[[[[[[[[1]]]]]]]]\nendobj\n2 0 obj\n" + "<</a".repeat(8) + " 1" + ">>".repeat(8) + "\nendobj\n");
     }
 
     private static void rowsOfNone(Checks c) {
